@@ -146,6 +146,12 @@ public final class LikenessTest {
         x.set(0, 5, 0);
         CHECK.due("15: nobody watches a DEAD one", x.watched(0), 0);
         CHECK.due("15: the next one", x.watched(2), 48);
+        x.turn(2, 1);
+        x.set(3, 2, 99);
+        x.turn(0, 4);
+        CHECK.due("15: not by DEAD ones", x.watched(3), 20);
+        x.set(0, 5, 1);
+        CHECK.due("15: by 0, too", x.watched(3), 21);
         CHECK.due("15: no such one", x.watched(6), Check.BEYOND);
         CHECK.due("15: no such one", x.watched(-1), Check.BEYOND);
     }

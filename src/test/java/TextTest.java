@@ -48,6 +48,14 @@ public final class TextTest {
         CHECK.due("34: count(1)", x.count(1), 0);
         x.feed('l' << 24 | 'a' << 16 | 'w' << 8 | '1', 4);
         CHECK.due("34: and begins anew", x.valley(), 1);
+        Check.feedText(x, "law 19;law 1");
+        x.wipe();
+        Check.feedText(x, "law 1");
+        CHECK.due("34: what was there is gone", x.valley(), 1);
+        Check.feedText(x, "kin      ");
+        x.wipe();
+        Check.feedText(x, "law");
+        CHECK.due("34: blanks, too", x.valley(), -4);
     }
 
     private static int read(LikestHeir x, String text) {
@@ -141,6 +149,7 @@ public final class TextTest {
         fine("person like12age3goods4term5child0", 1);
         fine("mark3weighs4costs5;law0", 2);
         fine("person like 0", 1);
+        fine("person age 0", 1);
         fine("person age 0000000000000000000120", 1);
         fine("law 00", 1);
     }
@@ -149,6 +158,8 @@ public final class TextTest {
         fault("people", 0);
         fault("personx", 0);
         fault("perso", 0);
+        fault("xerson", 0);
+        fault("persox", 0);
         fault("Person", 0);
         fault(" kind", 1);
         fault("7", 0);

@@ -205,6 +205,13 @@ public final class WhatToChangeTest {
         CHECK.due("30: one", x.kind(-1, 2), Check.BEYOND);
         CHECK.due("30: n", x.kind(0, 0), Check.BEYOND);
         CHECK.due("30: n", x.kind(0, 101), Check.BEYOND);
+        LikestHeir y = people(3);
+        y.set(1, 1, 69);
+        y.set(1, 2, 500);
+        y.be(1, 0, 1);
+        y.be(0, 1, 2);
+        CHECK.due("30: a COPIER of 1 and a TWIN of 2 get as much", y.kind(0, 1), 1);
+        CHECK.due("30: but the COPIER pays for copying 2, too", y.kind(0, 2), 5);
     }
 
     private static void fair() {

@@ -63,6 +63,11 @@ public final class YearsTest {
         x.years(1);
         CHECK.due("17: now it can", x.way(0, 2), 1);
         CHECK.due("17: GOODS", x.of(0, 2), 0);
+        x.be(1, 8, 3);
+        x.set(0, 2, 3);
+        x.years(1);
+        CHECK.due("17: the last MARK", x.way(0, 8), 3);
+        CHECK.due("17: GOODS", x.of(0, 2), 1);
     }
 
     private static void shunnersTurnRound() {
