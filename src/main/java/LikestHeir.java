@@ -1095,7 +1095,7 @@ public final class LikestHeir {
 
         /** -1 (which is part of no token) where there is no byte. */
         int byteAt(int place) {
-            return isWithin(place, 0, length - 1) ? bytes[place] & 255 : -1;
+            return place >= 0 && place < length ? bytes[place] & 255 : -1;
         }
     }
 
@@ -1159,7 +1159,9 @@ public final class LikestHeir {
             }
             nextToken();
             if (takesWord("like")) {
-                valley.looks[one] = takeLook();
+                int look = lookHere();
+                valley.looks[one] = look;
+                takeNumber(0, look == NOBODY ? NOBODY : MOST_LIKE);
             }
             if (takesWord("age")) {
                 valley.ages[one] = takeNumber(0, MOST_AGE);
@@ -1208,19 +1210,19 @@ public final class LikestHeir {
             return taken;
         }
 
-        private int takeLook() {
+        /** The look that the digits of this token tell from its end on, or NOBODY if one is no way. */
+        private int lookHere() {
             int look = 0;
-            int mark = 0;
-            boolean areWays = true;
             for (int place = end - 1; place >= start; place--) {
+                int mark = end - 1 - place;
                 int way = tape.byteAt(place) - '0';
-                areWays = areWays && isWithin(way, 0, WAYS - 1);
+                if (!isWithin(way, 0, WAYS - 1)) {
+                    return NOBODY;
+                }
                 if (mark < MARKS) {
                     look = withWay(look, mark, way);
                 }
-                mark++;
             }
-            takeNumber(0, areWays ? MOST_LIKE : NOBODY);
             return look;
         }
 
@@ -1261,11 +1263,11 @@ public final class LikestHeir {
             while (start < tape.length && tape.byteAt(start) == ' ') {
                 start++;
             }
+            end = start;
+            number = 0;
             int first = tape.byteAt(start);
-            end = start + 1;
             if (start >= tape.length) {
                 token = END;
-                end = start;
             } else if (isLetter(first)) {
                 token = WORD;
                 while (end < tape.length && isLetter(tape.byteAt(end))) {
@@ -1273,28 +1275,23 @@ public final class LikestHeir {
                 }
             } else if (isDigit(first)) {
                 token = NUMBER;
-                scanNumber();
+                while (end < tape.length && isDigit(tape.byteAt(end))) {
+                    // Any number above MOST_LIKE is too much everywhere, so it needn't be told exactly.
+                    number = number > MOST_LIKE / 10 ? MOST_LIKE + 1 : 10 * number + tape.byteAt(end) - '0';
+                    end++;
+                }
             } else {
                 token = first == ';' ? SEMICOLON : NO_TOKEN;
-            }
-        }
-
-        private void scanNumber() {
-            end = start;
-            number = 0;
-            while (end < tape.length && isDigit(tape.byteAt(end))) {
-                // Any number above MOST_LIKE is too much everywhere, so it needn't be told exactly.
-                number = number > MOST_LIKE / 10 ? MOST_LIKE + 1 : 10 * number + tape.byteAt(end) - '0';
                 end++;
             }
         }
 
         private static boolean isLetter(int b) {
-            return isWithin(b, 'a', 'z');
+            return b >= 'a' && b <= 'z';
         }
 
         private static boolean isDigit(int b) {
-            return isWithin(b, '0', '9');
+            return b >= '0' && b <= '9';
         }
     }
 }
