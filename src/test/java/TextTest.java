@@ -152,6 +152,11 @@ public final class TextTest {
         fine("person age 0", 1);
         fine("person age 0000000000000000000120", 1);
         fine("law 00", 1);
+        fine("person" + " ".repeat(114), 1);
+        fine(" ".repeat(114) + "person", 1);
+        fine(" ".repeat(115) + "law 1", 1);
+        fine("law 2;".repeat(19) + " law 2", 20);
+        fine("law " + "0".repeat(115) + "2", 1);
     }
 
     private static void wordsThatCannotStand() {
@@ -160,6 +165,10 @@ public final class TextTest {
         fault("perso", 0);
         fault("xerson", 0);
         fault("persox", 0);
+        fault("person z", 7);
+        fault("personz", 0);
+        fault("person; za", 8);
+        fault("law 1z#", 5);
         fault("Person", 0);
         fault(" kind", 1);
         fault("7", 0);
@@ -199,6 +208,9 @@ public final class TextTest {
         fault("mark 1 weighs", 13);
         fault("mark 1 weighs 1 costs ", 22);
         fault("law", 3);
+        fault(" ".repeat(120), 120);
+        fault("law 2;".repeat(20), 120);
+        fault(" ".repeat(117) + "law", 120);
     }
 
     private static void numbersThatMayNotBe() {

@@ -228,6 +228,11 @@ public final class WhatToChangeTest {
         CHECK.due("31: which stays", x.now(1), 2);
         CHECK.due("31: of several the least", x.fair(40), 0);
         CHECK.due("31: nobody", new LikestHeir().fair(1), 0);
+        LikestHeir y = people(3);
+        y.set(0, 1, 69);
+        y.set(0, 2, 2);
+        y.set(1, 2, 999997);
+        CHECK.due("31: 999999, 999999 or 999998", y.fair(1), 2);
         CHECK.due("31: n", x.fair(0), Check.BEYOND);
         CHECK.due("31: n", x.fair(101), Check.BEYOND);
     }
