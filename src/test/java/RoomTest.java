@@ -3,22 +3,21 @@ import java.lang.management.ManagementFactory;
 /** All calls of a run live in one room: so no call makes an object, whatever it answers. */
 public final class RoomTest {
     private static final Check CHECK = new Check();
-    private static final int MOST_BYTES = 4096;
+    private static final int MOST_BYTES_OF_ONE = 20000;
+    private static final int MOST_BYTES_OF_CALLS = 4096;
 
     public static void main(String[] args) {
         com.sun.management.ThreadMXBean threads =
             (com.sun.management.ThreadMXBean) ManagementFactory.getThreadMXBean();
         long id = Thread.currentThread().getId();
-        LikestHeir x = new LikestHeir();
-        manyCalls(x);
-        long before = threads.getThreadAllocatedBytes(id);
-        manyCalls(x);
-        long after = threads.getThreadAllocatedBytes(id);
-        CHECK.holds("calls made " + (after - before) + " bytes", after - before < MOST_BYTES);
+        manyCalls(new LikestHeir());
         long begin = threads.getThreadAllocatedBytes(id);
-        LikestHeir y = new LikestHeir();
+        LikestHeir x = new LikestHeir();
+        long made = threads.getThreadAllocatedBytes(id);
+        manyCalls(x);
         long end = threads.getThreadAllocatedBytes(id);
-        CHECK.holds("a new object makes " + (end - begin) + " bytes", end - begin < 20000 && y.count(0) == 0);
+        CHECK.holds("a new object makes " + (made - begin) + " bytes", made - begin < MOST_BYTES_OF_ONE);
+        CHECK.holds("calls made " + (end - made) + " bytes", end - made < MOST_BYTES_OF_CALLS);
         CHECK.end();
     }
 
