@@ -58,6 +58,19 @@ public final class EdgesOfImagesTest {
         e.dueNumbers(1, 300);
     }
 
+    @Says(promise = 42, text = "(THE TAPE not)")
+    static void p42WhatIsFedBehindAnImageStaysOnTheTape(Edge e) {
+        e.feed("law");
+        e.call("image");
+        e.feed(" 2");
+        e.due(0, "undo");
+        e.due(5, "count", 1);
+        e.due(1, "valley");
+        e.due(2, "now", 1);
+        e.due(0, "undo");
+        e.due(0, "count", 1);
+    }
+
     @Says(promise = 42, text = "is kept: 1.")
     static void p42OfAnEmptyValleyAndOfTwelve(Edge e) {
         e.due(1, "image");

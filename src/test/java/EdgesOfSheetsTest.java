@@ -465,14 +465,51 @@ public final class EdgesOfSheetsTest {
         e.due(2, "read", 0);
     }
 
+    @Says(promise = 41, text = "that MARK counts for nobody")
+    static void p41OtherNumbersAreNotReadByTheirLowestBits(Edge e) {
+        long[] others = {-1, -2, -4, 4, 6, 7, 1L << 32, (1L << 32) + 1, Long.MAX_VALUE};
+        e.people(0, 0);
+        e.call("sheet", 0, 64, 9);
+        for (int m = 0; m < 9; m++) {
+            for (long other : others) {
+                int low = (int) (other & 3);
+                e.call("be", 0, m, (low + 1) % 4);
+                e.call("be", 1, m, low);
+                e.call("write", 0, m, other);
+                e.due(0, "read", 0);
+            }
+            e.call("be", 0, m, 0);
+            e.call("be", 1, m, 0);
+            e.call("write", 0, m, 0);
+        }
+    }
+
+    @Says(promise = 41, text = "those for which there is none: not known; that MARK counts for nobody")
+    static void p41MarksForWhichThereIsNoNumberAreNotRead(Edge e) {
+        for (int m = 0; m < 9; m++) {
+            e.anew();
+            e.people(0, 0);
+            e.call("be", 0, m, 1);
+            e.call("sheet", 0, 8, m);
+            e.due(0, "read", 0);
+            e.call("sheet", 0, 8, m + 1);
+            e.due(1, "read", 0);
+        }
+    }
+
     @Says(promise = 41, text = "of a stranger with no CHILD")
     static void p41NobodyIsAStrangersChild(Edge e) {
-        e.people(0, 0, 0);
-        e.call("let", 1);
-        e.call("set", 0, 4, 2);
-        e.call("set", 1, 4, 2);
-        e.call("sheet", 0, 8, 9);
-        e.due(0, "read", 0);
+        for (int unlike = 0; unlike < 12; unlike++) {
+            e.anew();
+            e.twelve(0, 30);
+            e.call("let", 1);
+            for (int one = 0; one < 12; one++) {
+                e.call("set", one, 4, one == unlike ? -1 : unlike);
+            }
+            e.call("be", unlike, 0, 1);
+            e.call("sheet", 0, 8, 9);
+            e.due(unlike == 0 ? 1 : 0, "read", 0);
+        }
     }
 
     @Says(promise = 41, text = "who of the LIVING would be its HEIR")

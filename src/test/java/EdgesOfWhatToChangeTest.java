@@ -498,6 +498,19 @@ public final class EdgesOfWhatToChangeTest {
         e.due(2, "fair", 1);
     }
 
+    @Says(promise = 31, text = "The LAW by which GOODS of the richest LIVING one ON n YEARS (1 to 100) are least")
+    static void p31OneCoinBelow999999(Edge e) {
+        e.people(0, 0, 0);
+        e.call("set", 0, 1, 69);
+        e.call("set", 0, 2, 2);
+        e.call("set", 1, 2, 999997);
+        e.due(2, "fair", 1);
+        e.call("set", 1, 2, 999998);
+        e.due(0, "fair", 1);
+        e.call("set", 1, 2, 999999);
+        e.due(0, "fair", 1);
+    }
+
     @Says(promise = 31, text = "BEYOND.")
     static void p31Beyond(Edge e) {
         for (int n : NO_SPAN) {
